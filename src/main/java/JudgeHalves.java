@@ -25,10 +25,10 @@ public final class JudgeHalves {
     private final Circuit now = new Circuit();
     private final Tape tape = new Tape();
     private final Past past = new Past();
-    private final Foresight foresight = new Foresight(now);
-    private final Planner planner = new Planner(now);
-    private final Fitting fitting = new Fitting(now);
-    private final Asks asks = new Asks(now);
+    private final Foresight foresight = new Foresight();
+    private final Planner planner = new Planner();
+    private final Fitting fitting = new Fitting();
+    private final Asks asks = new Asks();
     private final Circuit[] images = {new Circuit(), new Circuit()};
     private int latestFinding;
 
@@ -129,7 +129,7 @@ public final class JudgeHalves {
         }
         for (int passed = 0; passed < n; passed++) {
             past.keep(now);
-            now.passYear(false);
+            now.passYears(1, 0);
         }
         return now.whoAre(SETTLED);
     }
@@ -240,7 +240,7 @@ public final class JudgeHalves {
         if (!now.isMan(man) || !isWithin(n, 0, MOST_AHEAD) || !isWithin(what, 0, 2)) {
             return BAD;
         }
-        Circuit then = foresight.look(n);
+        Circuit then = foresight.look(now, n);
         if (what == 0) {
             return then.trust[man];
         }
@@ -251,14 +251,14 @@ public final class JudgeHalves {
         if (!now.isJudge(judge) || !isWithin(n, 0, MOST_AHEAD)) {
             return BAD;
         }
-        return foresight.look(n).neighbourOf(judge);
+        return foresight.look(now, n).neighbourOf(judge);
     }
 
     public int when(int man, int how) {
         if (!now.isMan(man) || !isWithin(how, BESIDE, SETTLED)) {
             return BAD;
         }
-        return foresight.firstYearAs(man, how);
+        return foresight.firstYearAs(now, man, how);
     }
 
     public int sending(int n, int man) {
@@ -268,7 +268,7 @@ public final class JudgeHalves {
         if (!isWithin(n, 1, MOST_YEARS) || !isWithin(man, -1, now.men - 1)) {
             return BAD;
         }
-        planner.planSending(n);
+        planner.planSending(now, n);
         return man < 0 ? planner.sentDone() : planner.sentJudge(man);
     }
 
@@ -279,7 +279,7 @@ public final class JudgeHalves {
         if (!isWithin(n, 1, MOST_YEARS) || !isWithin(what, 0, 1)) {
             return BAD;
         }
-        planner.planGates(n);
+        planner.planGates(now, n);
         return what == 0 ? planner.bestSet() : planner.bestWorth();
     }
 
@@ -290,7 +290,7 @@ public final class JudgeHalves {
         if (!isWithin(n, 1, MOST_YEARS) || !isWithin(what, 0, 1)) {
             return BAD;
         }
-        planner.planLettingOff(n);
+        planner.planLettingOff(now, n);
         return what == 0 ? planner.bestWorth() : planner.bestSet();
     }
 
@@ -319,7 +319,7 @@ public final class JudgeHalves {
         if (!isWithin(n, 0, Planner.MOST_TURNS) || !isWithin(m, 1, 20)) {
             return BAD;
         }
-        return planner.playTurns(judge, other, n, m);
+        return planner.playTurns(now, judge, other, n, m);
     }
 
     public int who(int man, int which, int row, int i, int n) {
@@ -332,10 +332,10 @@ public final class JudgeHalves {
         }
         fitting.hear(man, rows, row, i, n);
         if (which == 0) {
-            fitting.tryAll(Fitting.OF_KIND, man, THIEF, BOY);
+            fitting.tryAll(now, Fitting.OF_KIND, man, THIEF, BOY);
             return foundNothing(fitting.bits());
         }
-        fitting.tryAll(Fitting.OF_TRUST, man, 0, MOST_TRUST);
+        fitting.tryAll(now, Fitting.OF_TRUST, man, 0, MOST_TRUST);
         return foundNothing(which == 1 ? fitting.howMany() : fitting.least());
     }
 
@@ -348,7 +348,7 @@ public final class JudgeHalves {
             return found(finding);
         }
         fitting.hear(man, rows, row, i, n);
-        fitting.tryAll(Fitting.OF_SEVERE, judge, 0, MOST_SEVERE);
+        fitting.tryAll(now, Fitting.OF_SEVERE, judge, 0, MOST_SEVERE);
         return foundNothing(fitting.bits());
     }
 
@@ -361,7 +361,7 @@ public final class JudgeHalves {
             return found(finding);
         }
         fitting.hear(man, rows, row, i, n);
-        fitting.tryAll(Fitting.OF_LIKE, man, 1, MOST_LIKE);
+        fitting.tryAll(now, Fitting.OF_LIKE, man, 1, MOST_LIKE);
         return foundNothing(which == 0 ? fitting.howMany() : fitting.least());
     }
 
@@ -372,7 +372,7 @@ public final class JudgeHalves {
         if (!isWithin(p, 0, 10) || !isWithin(what, 0, 1)) {
             return BAD;
         }
-        foresight.weighFences(man, n, p);
+        foresight.weighFences(now, man, n, p);
         return what == 0 ? foresight.above() : foresight.below();
     }
 
@@ -383,7 +383,7 @@ public final class JudgeHalves {
         if (!isWithin(n, 0, MOST_AHEAD) || !isWithin(seed, 1, 999999) || !isWithin(what, 0, 1)) {
             return BAD;
         }
-        Circuit then = foresight.lookByDraws(n, seed);
+        Circuit then = foresight.lookByDraws(now, n, seed);
         return what == 0 ? then.trustOfAll() : then.whoAre(SETTLED);
     }
 
@@ -430,7 +430,7 @@ public final class JudgeHalves {
         if (!now.isMan(one) || !isWithin(what, Asks.OF_SIZE, Asks.OF_MARK)) {
             return BAD;
         }
-        return asks.askAnew(one, what);
+        return asks.askAnew(now, one, what);
     }
 
     public int trace(int i) {
@@ -660,32 +660,29 @@ public final class JudgeHalves {
             return isMan(man) && (how[man] == BESIDE || how[man] == SETTLED);
         }
 
-        void passYears(int n) {
+        /** Fences are mended, so that no trust grows, in those of the years whose bits are set. */
+        void passYears(int n, int mended) {
             for (int passed = 0; passed < n; passed++) {
-                passYear(false);
-            }
-        }
-
-        /** If fences are mended, no trust grows in this year. */
-        void passYear(boolean mended) {
-            moveIn();
-            for (int man = 0; isMan(man); man++) {
-                if (how[man] == BESIDE) {
-                    liveBeside(man, mended);
+                moveIn();
+                boolean grows = passed >= Foresight.MOST_FENCED || (mended >> passed & 1) == 0;
+                for (int man = 0; man < men; man++) {
+                    if (how[man] == BESIDE) {
+                        liveBeside(man, grows);
+                    }
                 }
+                year++;
             }
-            year++;
         }
 
         /** Man by man is judge by judge, as each judge takes the first who waits for him. */
         private void moveIn() {
             int taken = 0;
-            for (int man = 0; isMan(man); man++) {
+            for (int man = 0; man < men; man++) {
                 if (isHoused(man) && isJudge(judgeOf[man])) {
                     taken |= 1 << judgeOf[man];
                 }
             }
-            for (int man = 0; isMan(man); man++) {
+            for (int man = 0; man < men; man++) {
                 boolean canMove = how[man] == WAITS && isJudge(judgeOf[man]);
                 if (canMove && (taken >> judgeOf[man] & 1) == 0) {
                     how[man] = BESIDE;
@@ -694,11 +691,11 @@ public final class JudgeHalves {
             }
         }
 
-        private void liveBeside(int man, boolean mended) {
+        private void liveBeside(int man, boolean grows) {
             if (!isMan(man)) {
                 return;
             }
-            if (!mended) {
+            if (grows) {
                 trust[man] = Math.min(MOST_TRUST, trust[man] + growthOf(man));
             }
             if (kind[man] == LIFER) {
@@ -739,7 +736,7 @@ public final class JudgeHalves {
         }
 
         void letOff(int set) {
-            for (int man = 0; isMan(man); man++) {
+            for (int man = 0; man < men; man++) {
                 if ((set >> man & 1) == 1) {
                     how[man] = OUT;
                     left[man] = 0;
@@ -749,7 +746,7 @@ public final class JudgeHalves {
 
         int whoAre(int state) {
             int set = 0;
-            for (int man = 0; isMan(man); man++) {
+            for (int man = 0; man < men; man++) {
                 if (how[man] == state) {
                     set |= 1 << man;
                 }
@@ -758,7 +755,7 @@ public final class JudgeHalves {
         }
 
         int neighbourOf(int judge) {
-            for (int man = 0; isMan(man); man++) {
+            for (int man = 0; man < men; man++) {
                 if (judgeOf[man] == judge && isHoused(man)) {
                     return man;
                 }
@@ -768,7 +765,7 @@ public final class JudgeHalves {
 
         int waitersFor(int judge) {
             int set = 0;
-            for (int man = 0; isMan(man); man++) {
+            for (int man = 0; man < men; man++) {
                 if (judgeOf[man] == judge && how[man] == WAITS) {
                     set |= 1 << man;
                 }
@@ -778,7 +775,7 @@ public final class JudgeHalves {
 
         int trustOfAll() {
             int sum = 0;
-            for (int man = 0; isMan(man); man++) {
+            for (int man = 0; man < men; man++) {
                 sum += trust[man];
             }
             return sum;
@@ -786,7 +783,7 @@ public final class JudgeHalves {
 
         int trustTowards(int judge) {
             int sum = 0;
-            for (int man = 0; isMan(man); man++) {
+            for (int man = 0; man < men; man++) {
                 sum += judgeOf[man] == judge ? trust[man] : 0;
             }
             return sum;
@@ -795,7 +792,7 @@ public final class JudgeHalves {
         /** How many men of a judge are out or have settled. */
         int doneWith(int judge) {
             int done = 0;
-            for (int man = 0; isMan(man); man++) {
+            for (int man = 0; man < men; man++) {
                 done += judgeOf[man] == judge && !isServing(man) ? 1 : 0;
             }
             return done;
@@ -803,7 +800,7 @@ public final class JudgeHalves {
 
         int closestTo(int judge) {
             int best = NONE;
-            for (int man = 0; isMan(man); man++) {
+            for (int man = 0; man < men; man++) {
                 if (judgeOf[man] == judge && (!isMan(best) || trust[man] > trust[best])) {
                     best = man;
                 }
@@ -813,7 +810,7 @@ public final class JudgeHalves {
 
         int beansFor(int man, int n) {
             int all = 0;
-            for (int one = 0; isMan(one); one++) {
+            for (int one = 0; one < men; one++) {
                 all += isHoused(one) ? trust[one] : 0;
             }
             if (all <= 0 || !isHoused(man) || trust[man] == 0) {
@@ -821,7 +818,7 @@ public final class JudgeHalves {
             }
             int over = n;
             int ahead = 0;
-            for (int one = 0; isMan(one); one++) {
+            for (int one = 0; one < men; one++) {
                 if (isHoused(one) && trust[one] > 0) {
                     over -= n * trust[one] / all;
                     ahead += one < man ? 1 : 0;
@@ -870,8 +867,8 @@ public final class JudgeHalves {
 
         /** The circuit that the tape tells, or null; the tape is empty then. */
         Circuit readAll() {
-            at = 0;
-            look();
+            behind = 0;
+            next();
             boolean isWhole = readLaw() && readJudges() && readMen();
             length = 0;
             return isWhole ? told : null;
@@ -973,16 +970,12 @@ public final class JudgeHalves {
             return false;
         }
 
-        private void next() {
-            at = behind;
-            look();
-        }
-
         private int byteAt(int place) {
             return place >= 0 && place < length && place < MOST_BYTES ? bytes[place] : -1;
         }
 
-        private void look() {
+        private void next() {
+            at = behind;
             value = byteAt(at);
             behind = at + 1;
             if (value < 0) {
@@ -1061,21 +1054,16 @@ public final class JudgeHalves {
     private static final class Foresight {
         static final int MOST_FENCED = 8;
 
-        private final Circuit now;
         private final Circuit trial = new Circuit();
         private long above, below;
 
-        Foresight(Circuit circuit) {
-            now = circuit;
-        }
-
-        Circuit look(int n) {
+        Circuit look(Circuit now, int n) {
             trial.takeFrom(now);
-            trial.passYears(n);
+            trial.passYears(n, 0);
             return trial;
         }
 
-        int firstYearAs(int man, int state) {
+        int firstYearAs(Circuit now, int man, int state) {
             trial.takeFrom(now);
             if (!trial.isMan(man)) {
                 return NONE;
@@ -1084,12 +1072,12 @@ public final class JudgeHalves {
                 if (trial.how[man] == state) {
                     return passed;
                 }
-                trial.passYear(false);
+                trial.passYears(1, 0);
             }
             return NONE;
         }
 
-        void weighFences(int man, int n, int p) {
+        void weighFences(Circuit now, int man, int n, int p) {
             above = 0;
             below = 1;
             int fenced = Math.max(0, Math.min(n, MOST_FENCED));
@@ -1097,20 +1085,13 @@ public final class JudgeHalves {
                 below *= 10;
             }
             for (int mended = 0; mended < 1 << fenced; mended++) {
-                if (settlesIf(man, fenced, mended)) {
+                trial.takeFrom(now);
+                trial.passYears(fenced, mended);
+                if (trial.isMan(man) && trial.how[man] == SETTLED) {
                     above += casesOf(fenced, mended, p);
                 }
             }
             reduce();
-        }
-
-        /** Fences are mended in the years whose bits are set. */
-        private boolean settlesIf(int man, int n, int mended) {
-            trial.takeFrom(now);
-            for (int passed = 0; passed < n; passed++) {
-                trial.passYear((mended >> passed & 1) == 1);
-            }
-            return trial.isMan(man) && trial.how[man] == SETTLED;
         }
 
         private static long casesOf(int n, int mended, int p) {
@@ -1144,13 +1125,13 @@ public final class JudgeHalves {
             return below;
         }
 
-        Circuit lookByDraws(int n, int seed) {
+        Circuit lookByDraws(Circuit now, int n, int seed) {
             trial.takeFrom(now);
             long x = seed;
             for (int passed = 0; passed < n; passed++) {
                 x = x * 16807 % 2147483647L;
                 actOnDraw(x);
-                trial.passYear(false);
+                trial.passYears(1, 0);
             }
             return trial;
         }
@@ -1180,18 +1161,13 @@ public final class JudgeHalves {
         /** One man done outweighs all trust there can be, so that both are held in one number. */
         private static final int WORTH_OF_DONE = 1000;
 
-        private final Circuit now;
-        private final Circuit plan = new Circuit();
+        private final Circuit start = new Circuit();
         private final Circuit trial = new Circuit();
         private final int[] worths = new int[MOST_JUDGES * SETS];
         private final int[] sentTo = new int[MOST_MEN];
         private final int[] bestTo = new int[MOST_MEN];
         private int waiting, set, worth;
         private int one, other, turns, span;
-
-        Planner(Circuit circuit) {
-            now = circuit;
-        }
 
         int bestSet() {
             return set;
@@ -1206,13 +1182,14 @@ public final class JudgeHalves {
         }
 
         int sentJudge(int man) {
-            return now.isMan(man) ? bestTo[man] : NONE;
+            return start.isMan(man) ? bestTo[man] : NONE;
         }
 
         /** What goes on by one judge is apart from all others, so sets of men are weighed judge by judge. */
-        void planSending(int n) {
-            waiting = now.whoAre(WAITS);
-            for (int judge = 0; now.isJudge(judge); judge++) {
+        void planSending(Circuit now, int n) {
+            start.takeFrom(now);
+            waiting = start.whoAre(WAITS);
+            for (int judge = 0; judge < start.judges; judge++) {
                 for (int sent = 0; sent < SETS; sent++) {
                     if ((sent & ~waiting) == 0) {
                         worths[judge * SETS + sent] = worthOfSending(judge, sent, n);
@@ -1224,28 +1201,28 @@ public final class JudgeHalves {
         }
 
         private int worthOfSending(int judge, int sent, int n) {
-            trial.takeFrom(now);
-            for (int man = 0; trial.isMan(man); man++) {
+            trial.takeFrom(start);
+            for (int man = 0; man < trial.men; man++) {
                 if ((waiting >> man & 1) == 1) {
                     trial.judgeOf[man] = (sent >> man & 1) == 1 ? judge : NOBODY;
                 }
             }
-            trial.passYears(n);
+            trial.passYears(n, 0);
             return trial.doneWith(judge) * WORTH_OF_DONE + trial.trustTowards(judge);
         }
 
         /** Tries the judges of this man and those behind him, the first judges first. */
         private void sendFrom(int man) {
-            if (!now.isMan(man)) {
+            if (!start.isMan(man)) {
                 weighSending();
                 return;
             }
             if ((waiting >> man & 1) == 0) {
-                sentTo[man] = now.judgeOf[man];
+                sentTo[man] = start.judgeOf[man];
                 sendFrom(man + 1);
                 return;
             }
-            for (int judge = 0; now.isJudge(judge); judge++) {
+            for (int judge = 0; judge < start.judges; judge++) {
                 sentTo[man] = judge;
                 sendFrom(man + 1);
             }
@@ -1253,9 +1230,9 @@ public final class JudgeHalves {
 
         private void weighSending() {
             int sum = 0;
-            for (int judge = 0; now.isJudge(judge); judge++) {
+            for (int judge = 0; judge < start.judges; judge++) {
                 int sent = 0;
-                for (int man = 0; now.isMan(man); man++) {
+                for (int man = 0; man < start.men; man++) {
                     sent |= sentTo[man] == judge ? 1 << man : 0;
                 }
                 sum += worths[judge * SETS + (sent & waiting)];
@@ -1266,50 +1243,51 @@ public final class JudgeHalves {
             }
         }
 
-        void planGates(int n) {
+        void planGates(Circuit now, int n) {
             worth = -1;
             for (int opened = 0; opened < 1 << now.judges; opened++) {
                 trial.takeFrom(now);
-                for (int judge = 0; trial.isJudge(judge); judge++) {
+                for (int judge = 0; judge < trial.judges; judge++) {
                     trial.open[judge] = opened >> judge & 1;
                 }
-                trial.passYears(n);
-                if (trial.trustOfAll() > worth) {
-                    worth = trial.trustOfAll();
+                trial.passYears(n, 0);
+                int comes = trial.trustOfAll();
+                if (comes > worth) {
+                    worth = comes;
                     set = opened;
                 }
             }
         }
 
-        void planLettingOff(int n) {
+        void planLettingOff(Circuit now, int n) {
             int serving = now.whoAre(WAITS) | now.whoAre(BESIDE);
             worth = MOST_MEN + 1;
             for (int off = 0; off < SETS; off++) {
                 boolean isFewer = (off & ~serving) == 0 && Integer.bitCount(off) < worth;
-                if (isFewer && nobodyWaitsWithout(off, n)) {
+                if (isFewer && nobodyWaitsWithout(now, off, n)) {
                     worth = Integer.bitCount(off);
                     set = off;
                 }
             }
         }
 
-        private boolean nobodyWaitsWithout(int off, int n) {
+        private boolean nobodyWaitsWithout(Circuit now, int off, int n) {
             trial.takeFrom(now);
             trial.letOff(off);
-            trial.passYears(n);
+            trial.passYears(n, 0);
             return trial.whoAre(WAITS) == 0;
         }
 
-        int playTurns(int judge, int otherJudge, int n, int years) {
+        int playTurns(Circuit now, int judge, int otherJudge, int n, int years) {
+            start.takeFrom(now);
             one = judge;
             other = otherJudge;
             turns = Math.min(n, MOST_TURNS);
             span = years;
-            plan.takeFrom(now);
             return playFrom(0);
         }
 
-        /** What comes of it from this turn on; plan is left as it was. */
+        /** What comes of it from this turn on; the start is left as it was. */
         private int playFrom(int turn) {
             if (turn >= turns) {
                 return outcome();
@@ -1317,12 +1295,12 @@ public final class JudgeHalves {
             boolean wantsGreat = turn % 2 == 0;
             int mover = wantsGreat ? one : other;
             int best = playFrom(turn + 1);
-            for (int man = 0; plan.isMan(man); man++) {
-                if (plan.judgeOf[man] == mover && plan.isServing(man)) {
-                    int before = plan.left[man];
-                    plan.left[man] = Math.min(MOST_YEARS, before + MORE_YEARS);
+            for (int man = 0; man < start.men; man++) {
+                if (start.judgeOf[man] == mover && start.isServing(man)) {
+                    int before = start.left[man];
+                    start.left[man] = Math.min(MOST_YEARS, before + MORE_YEARS);
                     int comes = playFrom(turn + 1);
-                    plan.left[man] = before;
+                    start.left[man] = before;
                     best = wantsGreat ? Math.max(best, comes) : Math.min(best, comes);
                 }
             }
@@ -1330,8 +1308,8 @@ public final class JudgeHalves {
         }
 
         private int outcome() {
-            trial.takeFrom(plan);
-            trial.passYears(span);
+            trial.takeFrom(start);
+            trial.passYears(span, 0);
             return trial.trustTowards(one) - trial.trustTowards(other);
         }
     }
@@ -1340,15 +1318,10 @@ public final class JudgeHalves {
     private static final class Fitting {
         static final int OF_KIND = 0, OF_TRUST = 1, OF_SEVERE = 2, OF_LIKE = 3;
 
-        private final Circuit now;
         private final Circuit trial = new Circuit();
         private final int[] told = new int[MOST_TOLD];
         private int toldYears, toldMan;
         private int bits, howMany, least;
-
-        Fitting(Circuit circuit) {
-            now = circuit;
-        }
 
         void hear(int man, Rows rows, int row, int i, int n) {
             toldMan = man;
@@ -1359,7 +1332,7 @@ public final class JudgeHalves {
         }
 
         /** Tries each number of a range in the place of one that a man, a judge or the law has. */
-        void tryAll(int part, int of, int from, int to) {
+        void tryAll(Circuit now, int part, int of, int from, int to) {
             bits = 0;
             howMany = 0;
             least = NONE;
@@ -1391,7 +1364,7 @@ public final class JudgeHalves {
                 return false;
             }
             for (int year = 0; year < toldYears; year++) {
-                trial.passYear(false);
+                trial.passYears(1, 0);
                 if (trial.trust[toldMan] != told[year]) {
                     return false;
                 }
@@ -1399,7 +1372,7 @@ public final class JudgeHalves {
             return true;
         }
 
-        /** Told of ranges within 0 .. 31 alone. */
+        /** Of ranges within 0 .. 31 alone, as a set has no more bits. */
         int bits() {
             return bits;
         }
@@ -1413,7 +1386,7 @@ public final class JudgeHalves {
         }
     }
 
-    /** Asks of men, by bodies, and the trace that these leave. */
+    /** Asks of a man, by bodies, and the trace that these leave. */
     private static final class Asks {
         static final int OF_SIZE = 0, OF_MARK = 1;
         private static final int MOST_TRACED = 16, DEEPEST = 16, UNTOLD = 0;
@@ -1421,31 +1394,31 @@ public final class JudgeHalves {
         private static final int[] SIZE_BODIES = {10, 11, 12, UNTOLD, 13, 14};
         private static final int[] MARK_BODIES = {20, 21, 24, 22, 23, UNTOLD};
 
-        private final Circuit now;
         private final int[] trace = new int[MOST_TRACED];
         private int length;
+        private int number, kind, left, trust;
 
-        Asks(Circuit circuit) {
-            now = circuit;
-        }
-
-        int askAnew(int man, int what) {
+        int askAnew(Circuit now, int man, int what) {
+            if (!now.isMan(man)) {
+                return 0;
+            }
+            number = man;
+            kind = now.kind[man];
+            left = now.left[man];
+            trust = now.trust[man];
             length = 0;
-            return answer(man, what, 0);
+            return answer(what, 0);
         }
 
         int traced(int i) {
             return i >= 0 && i < length && i < MOST_TRACED ? trace[i] : NONE;
         }
 
-        private int answer(int man, int what, int depth) {
-            if (!now.isMan(man) || depth > DEEPEST) {
-                return 0;
-            }
-            return run(bodyFor(now.kind[man], what), man, depth + 1);
+        private int answer(int what, int depth) {
+            return depth > DEEPEST ? 0 : run(bodyFor(what), depth + 1);
         }
 
-        private static int bodyFor(int kind, int what) {
+        private int bodyFor(int what) {
             int nearest = kind;
             for (int steps = 0; steps < NEAREST.length; steps++) {
                 if (nearest < 0 || nearest >= NEAREST.length) {
@@ -1460,22 +1433,22 @@ public final class JudgeHalves {
             return UNTOLD;
         }
 
-        private int run(int body, int man, int depth) {
-            if (!now.isMan(man) || depth > DEEPEST) {
+        private int run(int body, int depth) {
+            if (depth > DEEPEST) {
                 return 0;
             }
             leave(body);
             switch (body) {
-                case 10: return now.left[man];
-                case 11: return run(10, man, depth + 1) + answer(man, OF_MARK, depth + 1);
-                case 12: return -run(11, man, depth + 1);
-                case 13: return run(10, man, depth + 1) - 100;
-                case 14: return 2 * run(13, man, depth + 1);
-                case 20: return man;
-                case 21: return run(20, man, depth + 1) + now.trust[man];
-                case 22: return run(21, man, depth + 1) - 1000;
-                case 23: return run(20, man, depth + 1) - answer(man, OF_SIZE, depth + 1);
-                case 24: return 2 * run(21, man, depth + 1);
+                case 10: return left;
+                case 11: return run(10, depth + 1) + answer(OF_MARK, depth + 1);
+                case 12: return -run(11, depth + 1);
+                case 13: return run(10, depth + 1) - 100;
+                case 14: return 2 * run(13, depth + 1);
+                case 20: return number;
+                case 21: return run(20, depth + 1) + trust;
+                case 22: return run(21, depth + 1) - 1000;
+                case 23: return run(20, depth + 1) - answer(OF_SIZE, depth + 1);
+                case 24: return 2 * run(21, depth + 1);
                 default: return 0;
             }
         }
