@@ -220,6 +220,8 @@ public final class ForetoldTest {
         Check.due("byTurns(0, 1, 1, 5), better nothing", y.byTurns(0, 1, 1, 5), 37);
         Check.due("byTurns(1, 0, 1, 5)", y.byTurns(1, 0, 1, 5), -37);
         Check.due("byTurns(1, 0, 4, 5)", y.byTurns(1, 0, 4, 5), -37);
+        Check.due("byTurns(0, 1, 0, 1)", y.byTurns(0, 1, 0, 1), 1);
+        Check.due("byTurns(0, 1, 0, 20)", y.byTurns(0, 1, 0, 20), 82);
         Check.due("byTurns(0, 0, 1, 5)", y.byTurns(0, 0, 1, 5), Check.BAD);
         Check.due("byTurns(0, 2, 1, 5)", y.byTurns(0, 2, 1, 5), Check.BAD);
         Check.due("byTurns(-1, 0, 1, 5)", y.byTurns(-1, 0, 1, 5), Check.BAD);
@@ -240,6 +242,7 @@ public final class ForetoldTest {
         fraction(x, 1, 4, 0, 1);
         fraction(x, 0, 4, 0, 1);
         fraction(Check.of("l3,3;j4,1;t0,2;"), 2, 4, 21, 25);
+        fraction(Check.of("l3,3;j4,1;t0,1;"), 0, 0, 0, 1);
         fraction(Check.of("l3,24;j4,1;t0,8;"), 8, 9, 1, 100000000L);
         JudgeHalves settled = Check.of("l5,1;j0,0;t0,1;");
         settled.years(1);

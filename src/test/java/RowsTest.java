@@ -45,10 +45,11 @@ public final class RowsTest {
         Check.due("row(7, 0, -3)", x.row(7, 0, -3), Check.SIZE);
         Check.due("drop(7), as it was", x.drop(7), 40);
         Check.due("row(7, 2, 3)", x.row(7, 2, 3), 3);
+        x.set(7, 0, 9);
         x.set(7, 1, 9);
         Check.due("row(7, 2, 2)", x.row(7, 2, 2), 2);
         Check.fed(x, "l1,1;j0,0;w0,30;").circuit();
-        Check.due("items are 0 at first, again", x.who(0, 2, 7, 1, 1), 0);
+        Check.due("items are 0 at first, again", x.who(0, 2, 7, 0, 2), 0);
         Check.due("set(7, 2, 1), beyond", x.set(7, 2, 1), Check.PLACE);
         Check.due("count(0)", x.count(0), 2);
     }

@@ -107,13 +107,16 @@ public final class TextsTest {
         fault("l1,1;l1,1;", 5, 1);
         fault("l1,1;j0,0;", 10, 1);
         fault("l1,1;j0,0;l", 10, 1);
-        fault("l1,1;j0,0;a0,1;", 10, 1);
         fault("l1,1;j0,0;t0,1;j0,0;", 15, 1);
         fault("l1,1;j0,0;t0,1; ", 15, 1);
         fault("l1,1;j0,0;t0,1;5", 15, 1);
         fault("l1,1;j0,0;t0,1", 14, 1);
         fault("l1,1;j0,0;tt0,1;", 11, 1);
         fault("l1,1;j0,0;t0,1;\u00ff", 15, 1);
+        fault("l1,1;j0,0;t0,1;\u0000", 15, 1);
+        fault("\u0000", 0, 1);
+        fault("l1,1;j0,0;a0,1;", 10, 1);
+        fault("l1,1;j0,0;z0,1;", 10, 1);
     }
 
     private static void faultsOfNumbers() {
