@@ -29,6 +29,10 @@ final class Check {
         return wrong;
     }
 
+    static int held() {
+        return held;
+    }
+
     static JudgeHalves fed(JudgeHalves x, String text) {
         for (int i = 0; i < text.length(); i++) {
             x.feed(text.charAt(i));
