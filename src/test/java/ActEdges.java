@@ -188,6 +188,9 @@ final class ActEdges {
                 "undo() = 2", "man(2, 2) = 9")
             .says("undo() = 1", "man(1, 0) = 0", "undo() = 0", "count(3) = 0", "man(0, 1) = 0", "man(0, 2) = 1",
                 "man(0, 3) = 0");
+        // a call that is not refused is an act, also if all is as it was (NOTES.md)
+        Run.of(Run.QUEUE).says("send(0, 0) = 0", "count(6) = 1", "sentence(0, 2) = 2", "count(6) = 2",
+                "gate(0, 0) = 0", "count(6) = 3", "severe(0, 0) = 0", "count(6) = 4", "undo() = 3");
         Sentences.edge(PART, "(he WAITS for a JUDGE, with so many YEARS, his TRUST stays).");
         Run.of("l1,60;j0,0;j5,0;t0,5;").says("years(5) = 0", "man(0, 1) = 2", "retry(0, 1, 30) = 0", "man(0, 0) = 1",
                 "man(0, 1) = 0", "man(0, 2) = 30", "man(0, 3) = 5")
@@ -288,6 +291,9 @@ final class ActEdges {
         // whoever he is now: settled, beside, waits, out; the year is odd
         Limits.made(Limits.MIXED).says("man(0, 4) = 2", "man(1, 4) = 3", "man(2, 4) = 4", "man(3, 4) = 0",
                 "man(4, 4) = 1", "man(5, 4) = 3");
+        // what a year gives by itself, as the growth is told, though trust is 99 at most (NOTES.md)
+        Run.of("l9,60;j0,1;f0,1;").says("years(9) = 0", "man(0, 3) = 90", "man(0, 4) = 10", "years(1) = 0",
+                "man(0, 3) = 99", "man(0, 4) = 10");
         Sentences.edge("promise 16", "BAD.");
         Limits.of(16);
         Run.fresh().says("man(0, 0) = BAD", "man(0, 4) = BAD");
